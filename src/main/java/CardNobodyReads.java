@@ -1366,7 +1366,7 @@ public final class CardNobodyReads {
             boolean sound = readPart(Tape.MAY, MAY_HAVE) && readPart(Tape.LIKES, LIKED)
                     && readPart(Tape.LEARNS, LEARNED) && token() == Tape.END;
             tape.empty();
-            if (!sound || number >= MOST_TEXTS) {
+            if (!sound) {
                 return at(tape.places, next);
             }
             number++;
@@ -1393,11 +1393,10 @@ public final class CardNobodyReads {
             return true;
         }
 
+        /** Each step stands for a token of its own, so a text has no more steps than bytes. */
         private void write(int step) {
-            if (length < MOST_BYTES) {
-                put(steps, number * MOST_BYTES + length, step);
-                length++;
-            }
+            put(steps, number * MOST_BYTES + length, step);
+            length++;
         }
 
         private boolean readEither(int open) {

@@ -295,6 +295,10 @@ public final class TestPromises {
         fault("may (((((1+((2", 11);
         fault("may (((((1)+(2)+((3", 17);
         fault("may 1;likes (((((1;", 18);
+        fault("may 1" + "+1".repeat(77) + " ", 160);
+        fault("may 1" + "+1".repeat(77) + "+", 160);
+        fault("may 1;likes 1;learns 1;" + " ".repeat(136) + "1", 159);
+        sound("may 1;likes 1;learns 1;" + " ".repeat(137));
         sound("may 1;likes 1;learns 1;");
         sound("\n may 1 ; likes 1 ; learns 1 ; \n");
         sound("may1;likes1;learns1;");
@@ -329,6 +333,11 @@ public final class TestPromises {
         due("11: again", x.force(2), 2);
         due("11: back", x.force(0), 2);
         due("11: all", x.sets(), 720);
+        text(x, "may place=0 and many=1 and not guest and not left;likes 1;learns 2;");
+        x.force(3);
+        due("11: may asks with guest 0, left 0", x.sets(), 720);
+        x.line(1, 10);
+        due("11: and with the place", x.sets(), 0);
     }
 
     private static void says(String e, int value) {
@@ -415,8 +424,13 @@ public final class TestPromises {
         text(y, "may 1;likes 1-(0or 1and 1<1+1*(0or 1and 1<1+1*(0or 1and 1<1+1*(0or 1and 1<1+1*(0or 1and 3<1+1*guest)))))"
                 + ";learns 1;");
         y.force(2);
-        due("12: deepest, guest 3", y.asks(1, 0, 0, 3, 0), 0);
-        due("12: deepest, guest 2", y.asks(1, 0, 0, 2, 0), 1);
+        due("12: deeper, guest 3", y.asks(1, 0, 0, 3, 0), 0);
+        due("12: deeper, guest 2", y.asks(1, 0, 0, 2, 0), 1);
+        String waiting = "0or 1and 1<1+1*(";
+        text(y, "may 1;likes " + waiting.repeat(5) + "0or 1and 1<1+1*guest)))));learns 1;");
+        y.force(3);
+        due("12: deepest, guest 1", y.asks(1, 0, 0, 1, 0), 1);
+        due("12: deepest, guest 0", y.asks(1, 0, 0, 0, 0), 0);
     }
 
     // ---- promises 13 to 15
@@ -455,6 +469,9 @@ public final class TestPromises {
             due("14: " + f, x.forget(), f);
         }
         due("14: none", x.forget(), -3);
+        CardNobodyReads y = tasted();
+        due("14: it held", y.sets(), 48);
+        due("14: no more", y.forget() * 1000 + y.sets(), 720);
         due("14: all fit again", x.sets(), 720);
     }
 
@@ -662,6 +679,19 @@ public final class TestPromises {
         due("27: what 2", x.ordered(2), -2);
         due("27: what -1", x.ordered(-1), -2);
         orders("no guests", tasted(), new int[0], 0, 0);
+        due("27: asked first", withGuests().ordered(0), 5520);
+        due("27: asked first", withGuests().ordered(1), 40);
+        CardNobodyReads one = withGuests();
+        for (int l = 3; l < 6; l++) {
+            one.line(1 << l, 10);
+            one.know(1, l, 1 << l, 0);
+        }
+        one.know(2, 2, 1, 0);
+        due("16: one alone", one.sets(), 1);
+        // likes 42 31 22 41 41 41, safe for guest 0 all but 1 and 2, for guest 1 all but 0 and 2
+        orders("one fits", one, new int[] {0, 3, 0, -1}, 42 + 41 + 42, 30);
+        due("28: one fits", one.middle(63), 125);
+        due("29: one fits", one.taste(0) * 1000 + one.taste(1), 719);
 
         CardNobodyReads y = withGuests();
         text(y, "may 1;likes guest*10+place+left-48;learns 1;");
@@ -1057,6 +1087,11 @@ public final class TestPromises {
         y.know(1, 0, 3, 0);
         y.forget();
         due("42: it is there", y.back(), 3);
+        text(y, "may 1;likes 1;learns 1;");
+        y.force(1);
+        y.image();
+        y.force(0);
+        due("42: the law", y.back() * 10 + y.count(5), 31);
         CardNobodyReads z = new CardNobodyReads();
         due("41: nothing", z.image(), 0);
         z.line(1, 1);
@@ -1102,6 +1137,19 @@ public final class TestPromises {
         due("43: as written", x.linesBy(1, 2, 0, 1), 1);
         x.sheet(1, 2, 2);
         due("43: all 0 again", x.linesBy(1, 2, 0, 1), 0);
+        x.cell(1, 0, 7);
+        due("43: the price, too", x.linesBy(1, 2, 0, 1), 0);
+        x.cell(1, 1, 50);
+        x.sheet(1, 2, 2);
+        x.cell(1, 1, 50);
+        due("43: the signs, too", x.linesBy(1, 2, 0, 1), 0);
+        x.sheet(0, 0, 40);
+        x.cell(0, 38, 7);
+        x.cell(0, 39, 50);
+        due("43: the last two", x.linesBy(0, 0, 38, 1), 1);
+        x.sheet(0, 0, 40);
+        x.cell(0, 38, 7);
+        due("43: the last one 0 again", x.linesBy(0, 0, 38, 1), 0);
         cut();
     }
 

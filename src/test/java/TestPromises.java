@@ -13,16 +13,8 @@ public final class TestPromises {
         Check.due(call, got, want);
     }
 
-    /** Feeds a text whole and reads it. */
     private static int text(CardNobodyReads x, String text) {
-        feed(x, text);
-        return x.text();
-    }
-
-    private static void feed(CardNobodyReads x, String text) {
-        for (char c : text.toCharArray()) {
-            x.feed(1, c, 0, 0, 0, 0);
-        }
+        return Cards.text(x, text);
     }
 
     /** Two signs tasted as parts 0 and 1: 48 tongues fit; line 1 is sign 2, line 2 signs 0 and 2. */
